@@ -289,9 +289,13 @@ final class Model {
 
     int bettered(int set) {
         int bits = 0;
+        Day[] days = new Day[5];
+        for (int rule = 0; rule < 5; rule++) {
+            days[rule] = day(rule, set);
+        }
         for (int one = 0; one < 5; one++) {
             for (int two = 0; two < 5; two++) {
-                Day d = day(one, set), e = day(two, set);
+                Day d = days[one], e = days[two];
                 int dShut = Integer.bitCount(d.shut), eShut = Integer.bitCount(e.shut);
                 int dThrown = Integer.bitCount(d.thrown), eThrown = Integer.bitCount(e.thrown);
                 boolean worse = e.used < d.used || eShut > dShut || eThrown > dThrown;

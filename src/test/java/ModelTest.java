@@ -98,9 +98,11 @@ public final class ModelTest {
         int rule = from(0, 4);
         int e = DRAW.nextBoolean() ? from(0, 20) : from(0, 9999);
         CHECK.due(where + "often " + rule + " " + e, x.often(rule, e), model.often(rule, set, e));
-        int x1 = from(0, 3);
-        CHECK.due(where + "porter " + x1, x.porter(x1), model.porter(set, x1));
-        CHECK.due(where + "card " + x1, x.card(x1), model.card(set, x1));
+        if (DRAW.nextInt(4) == 0) {
+            int few = from(0, 3);
+            CHECK.due(where + "porter " + few, x.porter(few), model.porter(set, few));
+            CHECK.due(where + "card " + few, x.card(few), model.card(set, few));
+        }
         int z = DRAW.nextInt(4) == 0 ? from(9985, 9999) : from(0, 9999);
         CHECK.due(where + "drawn " + z + " " + rule, x.drawn(z, rule), model.drawn(z, rule, set));
         CHECK.due(where + "ten " + z + " " + rule, x.ten(z, rule), model.ten(z, rule, set));
