@@ -197,8 +197,9 @@ public final class CoatsOnChairs {
             return BAD;
         }
         runWhole(rule);
+        int used = today.used();
         for (int r = MOST_EVERY; r >= 1; r--) {
-            if (Math.abs(today.seenEvery(r) - today.used()) <= e) {
+            if (Math.abs(today.seenEvery(r) - used) <= e) {
                 return r;
             }
         }
@@ -618,13 +619,14 @@ public final class CoatsOnChairs {
         private final int[] seatHolders;
         private final int[] sitting;
         private Room room;
+        private int readers;
+        private int seats;
         private int rule;
         private int holders;
         private int cardMinutes;
         private int porterMinutes;
         private int ran;
         private int left;
-        private int used;
         private int empty;
         private int shutOut;
         private int thrownOut;
@@ -644,6 +646,8 @@ public final class CoatsOnChairs {
         /** Ahead of minute 0: nobody is there. */
         void open(Room room, int rule, int holders) {
             this.room = room;
+            readers = Math.min(room.readerCount(), MOST_READERS);
+            seats = Math.min(room.seatCount(), MOST_SEATS);
             this.rule = rule;
             this.holders = rule == NOBODY_HOLDS ? 0 : holders;
             useCards(room.cardMinutes(), room.porterMinutes());
@@ -657,8 +661,7 @@ public final class CoatsOnChairs {
             Arrays.fill(sitters, NOBODY);
             Arrays.fill(seatHolders, NOBODY);
             ran = 0;
-            left = room.readerCount();
-            used = 0;
+            left = readers;
             empty = 0;
             shutOut = 0;
             thrownOut = 0;
@@ -671,7 +674,7 @@ public final class CoatsOnChairs {
 
         void comeLater(int z) {
             int span = room.laterMinutes() + 1;
-            for (int i = 0; i < room.readerCount() && span > 0; i++) {
+            for (int i = 0; i < readers && span > 0; i++) {
                 long x = 7919L * z + 6151L * i + 1;
                 arrivals[i] += (int) (x * x % 65521 % span);
             }
@@ -690,7 +693,7 @@ public final class CoatsOnChairs {
         }
 
         private void comeBack(int t) {
-            for (int i = 0; i < room.readerCount(); i++) {
+            for (int i = 0; i < readers; i++) {
                 if (states[i] != OFF || t - since[i] != room.number(i, AWAY)) {
                     continue;
                 }
@@ -711,7 +714,7 @@ public final class CoatsOnChairs {
                 return;
             }
             int limit = porterComes ? cardMinutes : room.lampMinutes();
-            for (int s = 0; s < room.seatCount(); s++) {
+            for (int s = 0; s < seats; s++) {
                 int holder = seatHolders[s];
                 if (holder != NOBODY && offFor(holder, t) >= limit) {
                     seatHolders[s] = NOBODY;
@@ -720,7 +723,7 @@ public final class CoatsOnChairs {
         }
 
         private void seekSeats(int t) {
-            for (int i = 0; i < room.readerCount(); i++) {
+            for (int i = 0; i < readers; i++) {
                 if (states[i] == NOT_THERE && arrivals[i] == t) {
                     states[i] = SEEKS;
                     since[i] = t;
@@ -746,9 +749,12 @@ public final class CoatsOnChairs {
             int likes = room.number(i, LIKES);
             int best = NOBODY;
             int most = -1;
-            for (int s = 0; s < room.seatCount(); s++) {
+            for (int s = 0; s < seats; s++) {
+                if (sitters[s] != NOBODY || seatHolders[s] != NOBODY) {
+                    continue;
+                }
                 int has = Integer.bitCount(room.kindOf(s) & likes);
-                if (sitters[s] == NOBODY && seatHolders[s] == NOBODY && has > most) {
+                if (has > most) {
                     best = s;
                     most = has;
                 }
@@ -757,7 +763,7 @@ public final class CoatsOnChairs {
         }
 
         private int daredSeatFor(int i, int t) {
-            for (int s = 0; s < room.seatCount(); s++) {
+            for (int s = 0; s < seats; s++) {
                 int holder = seatHolders[s];
                 if (holder != NOBODY && room.number(holder, THING) <= room.number(i, BOLD) + offFor(holder, t) / 10) {
                     return s;
@@ -777,7 +783,7 @@ public final class CoatsOnChairs {
         }
 
         private void sitOn(int t) {
-            for (int i = 0; i < room.readerCount(); i++) {
+            for (int i = 0; i < readers; i++) {
                 int s = places[i];
                 if (states[i] != SITS || s < 0 || s >= sitters.length) {
                     continue;
@@ -798,12 +804,11 @@ public final class CoatsOnChairs {
 
         private void countSeats(int t) {
             int sit = 0;
-            for (int s = 0; s < room.seatCount(); s++) {
+            for (int s = 0; s < seats; s++) {
                 sit += sitters[s] != NOBODY ? 1 : 0;
                 empty += seatHolders[s] != NOBODY ? 1 : 0;
             }
             sitting[t] = sit;
-            used += sit;
         }
 
         /** For so long a holder who is off holds its seat. */
@@ -828,7 +833,7 @@ public final class CoatsOnChairs {
         }
 
         int used() {
-            return used;
+            return seenEvery(1);
         }
 
         int empty() {
