@@ -66,6 +66,7 @@ public final class PromisesTest {
         CoatsOnChairs y = Check.laid("s0;r0,90,1,90,0,5,5;r1,5,5,1,0,0,0;w99;");
         due("no c: freed at", takenAt(y, 2), 40);
         due("no l: freed at", takenAt(y, 3), 15);
+        due("no c: held for 30 is enough", takenAt(Check.laid("s0;r0,90,11,90,0,5,5;r1,5,5,1,0,0,0;w99;"), 2), 40);
         CoatsOnChairs z = Check.laid("s0;r0,90,90,1,0,5,5;r3,5,5,1,0,0,0;");
         due("no w: seeks", z.does(0, 22, 1), 1);
         due("no w: gone", z.does(0, 23, 1), 4);
@@ -318,6 +319,29 @@ public final class PromisesTest {
         due("sat", late.sat(0, 2), 193);
         due("sat", late.sat(0, 0), 150);
         wrongDays(x);
+        lastMinute();
+    }
+
+    /** What happens in minute 399 counts still. */
+    private static void lastMinute() {
+        CoatsOnChairs x = Check.laid("s0;r199,199,51,51,0,0,0;r199,199,199,1,0,0,0;w99;");
+        x.hold(0, false);
+        due("seeks at 398", x.does(0, 398, 0), 1);
+        due("gone at 399", x.does(0, 399, 0), 4);
+        due("shut out", x.day(0, 3), 1);
+        due("by CARDS, too: porter", x.porter(0), NONE);
+        due("by CARDS, too: card", x.card(0), NONE);
+        due("by a draw, too", x.drawn(0, 0), 1);
+        due("on ten days, too", x.ten(0, 0), 0);
+        // Reader 0 dares at 220, is off from 310 to 399; reader 1 seeks from 301 on and dares not.
+        CoatsOnChairs y = Check.laid("s0;r199,199,91,89,0,9,9;r190,199,30,82,0,0,0;w99;");
+        due("dares", y.seat(4, 220, 0, 0), 0);
+        due("off at 398", y.does(4, 398, 0), 3);
+        due("back at 399", y.does(4, 399, 0), 2);
+        due("sat a minute more", y.sat(4, 0), 92);
+        for (int set = 0; set < 4; set++) {
+            due("that minute is worth holding: " + set, y.rest(4, set), set & 1);
+        }
     }
 
     private static void wrongDays(CoatsOnChairs x) {
@@ -529,6 +553,11 @@ public final class PromisesTest {
         due("no set rests: the greatest", y.rests(3, 2), NONE);
         due("eight readers", Check.laid("s0;" + "r0,1,1,1,0,0,0;".repeat(8)).rests(0, 0), 256);
         due("eight readers", Check.laid("s0;" + "r0,1,1,1,0,0,0;".repeat(8)).rests(0, 2), 255);
+        CoatsOnChairs eighth = Check.laid("s0;" + "r150,1,1,1,0,0,0;".repeat(6) + "r2,9,9,1,0,0,0;r0,4,2,2,0,0,0;w0;");
+        due("the eighth one must hold: how many", eighth.rests(0, 0), 128);
+        due("the eighth one must hold: the least", eighth.rests(0, 1), 128);
+        due("the eighth one must hold: the greatest", eighth.rests(0, 2), 255);
+        due("the eighth one does not", eighth.rest(0, 127), 0);
     }
 
     private static void rounds() {
@@ -583,6 +612,9 @@ public final class PromisesTest {
         due("no porter helps", full.porter(0), NONE);
         due("no card helps", full.card(0), NONE);
         due("one", full.porter(1), 99);
+        // 101 is a prime, held for 98 then; the other one comes just then, for a minute.
+        due("porter every minute", Check.laid("s0;r0,199,4,99,0,0,0;r101,1,1,1,0,0,0;c98,50;w0;").porter(0), 1);
+        due("card for a minute", Check.laid("s0;r0,199,4,99,0,0,0;r4,1,1,1,0,0,0;c30,4;w0;").card(0), 1);
         x.hold(0, false);
         due("nobody holds", x.porter(0), 99);
         due("nobody holds", x.card(0), 99);
@@ -619,6 +651,8 @@ public final class PromisesTest {
         due("more than that", x.over(1, 5, 76), 1);
         due("a half", x.over(1, 5, 50), 3);
         due("more than that", x.over(1, 5, 51), 2);
+        due("972 of a thousand are not 98 of a hundred", x.over(1, 1, 98), 2);
+        due("but 97", x.over(1, 1, 97), 3);
         due("nobody comes", x.over(1, 0, 100), 14);
         due("all come", x.over(1, 10, 1), 1);
         due("all come, no odds asked", x.over(1, 10, 0), 14);
@@ -663,6 +697,11 @@ public final class PromisesTest {
         due("v30", Check.laid(two + "v30;").drawn(0, 0), 0);
         due("v1", Check.laid(two + "v1;").drawn(0, 0), 1);
         due("v2", Check.laid(two + "v2;").drawn(0, 0), 0);
+        // By z = 1 the draws are 22803 and 54100: modulo 31 they are 18 and 5.
+        for (int a = 10; a < 17; a++) {
+            CoatsOnChairs at = Check.laid("s0;r0,1,1,1,0,0,0;r" + a + ",1,1,1,0,0,0;w0;v30;");
+            due("18 beside 5 and " + a, at.drawn(1, 0), a == 13 ? 1 : 0);
+        }
         CoatsOnChairs x = Check.laid(two);
         due("nobody comes later", x.drawn(0, 0), 1);
         due("no good day", x.ten(0, 0), 0);
