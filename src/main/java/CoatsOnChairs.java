@@ -7,6 +7,7 @@ public final class CoatsOnChairs {
     private static final int MOST_BYTES = 400, MOST_SEATS = 10, MOST_READERS = 8, MOST_KEPT = 2;
     private static final int MINUTES = 400;
     private static final int RULES = 5, NOBODY_HOLDS = 1, CARDS = 2, LAMPS = 3, DARING = 4;
+    private static final int NOBODY = -1;
     private static final int READER_NUMBERS = 7;
     private static final int COMES = 0, WANTS = 1, GOES_OFF = 2, AWAY = 3, LIKES = 4, THING = 5, BOLD = 6, HOLDER = 7;
     private static final int MOST_EVERY = 99, MOST_OFF = 9999, MOST_BOOKED = 14, MOST_DRAW = 9999;
@@ -103,7 +104,7 @@ public final class CoatsOnChairs {
         today.open(laid, rule, holders);
         today.runTo(t);
         int who = what == 0 ? today.sitterOf(s) : today.holderOf(s);
-        return who == Day.NOBODY ? NONE : who;
+        return who == NOBODY ? NONE : who;
     }
 
     public int does(int rule, int t, int i) {
@@ -606,7 +607,6 @@ public final class CoatsOnChairs {
 
     /** One day by one rule, minute behind minute; the same rows serve every day. */
     private static final class Day {
-        static final int NOBODY = -1;
         private static final int NOT_THERE = 0, SEEKS = 1, SITS = 2, OFF = 3, GONE = 4;
 
         private final int[] states;
