@@ -17,6 +17,7 @@ public final class DayEdgesTest {
         aMinuteThatRDivides();
         cardsGoodForC();
         lampsTellForL();
+        freeForThoseWhoSeek();
         byTheOthersNoneComesFree();
         whoComesAtT();
         theLowestFirst();
@@ -212,6 +213,24 @@ public final class DayEdgesTest {
             due("held for less, L = " + l, x.seat(LAMPS, 3 + l - 1, 0, 1), 0);
             due("held for L, L = " + l, x.seat(LAMPS, 3 + l, 0, 1), NONE);
             due("minutes held, L = " + l, x.day(LAMPS, 1), l);
+        }
+    }
+
+    /** 2 is ahead of 3: what comes free is taken in that very minute, be it the last one in which one seeks. */
+    private static void freeForThoseWhoSeek() {
+        for (int minutes = 1; minutes <= 98; minutes++) {
+            String room = "s0;r0,9,1,99,0,0,0;r1,5,5,1,0,0,0;c" + minutes + ",1;l" + minutes + ";w";
+            CoatsOnChairs x = Check.laid(room + (minutes - 1) + ";");
+            for (int rule : new int[] {CARDS, LAMPS}) {
+                due("held until then: " + minutes, x.seat(rule, minutes - 1, 0, 1), 0);
+                due("taken then: " + minutes, x.seat(rule, minutes, 0, 0), 1);
+                due("nobody shut out: " + minutes, x.day(rule, 2), 0);
+            }
+            if (minutes > 1) {
+                CoatsOnChairs y = Check.laid(room + (minutes - 2) + ";");
+                due("gone a minute ahead by CARDS: " + minutes, y.day(CARDS, 3), 2);
+                due("gone a minute ahead by LAMPS: " + minutes, y.day(LAMPS, 3), 2);
+            }
         }
     }
 
