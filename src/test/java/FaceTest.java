@@ -60,6 +60,7 @@ public final class FaceTest {
                 boolean told = Arrays.asList("BAD", "NO", "FULL", "NONE").contains(f.getName());
                 check.due("seen: " + f, Modifier.isPublic(f.getModifiers()) == told ? 1 : 0, 1);
                 check.due("hidden: " + f, told || Modifier.isPrivate(f.getModifiers()) ? 1 : 0, 1);
+                check.due("an int for all: " + f, told && (!isStatic || f.getType() != int.class) ? 1 : 0, 0);
             }
         }
         check.due("fields of " + c, own <= 20 ? 1 : 0, 1);

@@ -9,7 +9,8 @@ import java.util.regex.Pattern;
 public final class LanguageTest {
     private static final String[] RULED_OUT = {"->", "::", "\\bcatch\\b", "\\bfinally\\b", "\\bthrow\\b", "\\bsynchronized\\b",
         "\\bassert\\b", "Exact\\b", "\\bpackage\\b", "\\bSystem\\.(?!arraycopy)", "\\bdouble\\b", "\\bfloat\\b", "@", "\\bvar\\b",
-        "\\bMap\\b", "\\bRandom\\b", "\\bThread\\b", "\\bstatic \\{"};
+        "\\bMap\\b", "\\bRandom\\b", "\\bThread\\b", "\\bstatic \\{", "\\bcopyOf", "\\bclone\\b", "\\bString", "\\bList\\b",
+        "\\bInteger\\b(?!\\.)", "\\bLong\\b(?!\\.)"};
     private static final int LONGEST_METHOD = 60;
 
     public static void main(String[] args) throws Exception {
@@ -26,7 +27,25 @@ public final class LanguageTest {
             check.due("import of " + imports.group(1), imports.group(1).equals("java.util.Arrays") ? 1 : 0, 1);
         }
         methods(check, source.lines().toList());
+        makers(check, code.lines().toList());
         check.end();
+    }
+
+    /** Calls make no object: 'new' stands in constructors alone, whose heads have a name but no type. */
+    private static void makers(Check check, List<String> lines) {
+        Pattern head = Pattern.compile("( {4}| {8})\\S.*\\) \\{");
+        Pattern maker = Pattern.compile(" +(public |private )?[A-Z]\\w*\\(.*\\) \\{");
+        boolean inMaker = false;
+        int made = 0;
+        for (String line : lines) {
+            if (head.matcher(line).matches()) {
+                inMaker = maker.matcher(line).matches();
+            }
+            boolean makes = Pattern.compile("\\bnew\\b").matcher(line).find();
+            made += makes ? 1 : 0;
+            check.due("made outside a constructor: " + line, makes && !inMaker ? 1 : 0, 0);
+        }
+        check.due("something is made", made > 0 ? 1 : 0, 1);
     }
 
     /** A method begins at an indent of four or eight and ends at a brace of the same indent. */
